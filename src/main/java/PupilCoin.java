@@ -198,7 +198,8 @@ public final class PupilCoin {
     public int formula(int n, int year) {
         if (n < 0 || n > taped || !isYear(year) || year < today / YEAR_DAYS) return UNFIT;
         if (rules.count >= LAWS) return FULL;
-        readTape(n);
+        faultPlace = reader.read(tape, n);
+        taped = 0;
         if (faultPlace != NONE) return NONE;
         sums.forget();
         return rules.take(new Law(reader, rules.count, year, today));
@@ -206,7 +207,8 @@ public final class PupilCoin {
 
     public int beside(int n) {
         if (n < 0 || n > taped) return UNFIT;
-        readTape(n);
+        faultPlace = reader.read(tape, n);
+        taped = 0;
         aside = faultPlace == NONE ? new Law(reader, NONE, 0, 0) : null;
         return faultPlace == NONE ? 0 : NONE;
     }
@@ -388,11 +390,6 @@ public final class PupilCoin {
         }
     }
 
-    private void readTape(int n) {
-        taped = 0;
-        faultPlace = reader.read(tape, n);
-    }
-
     private boolean mayObject(int proposal, int school) {
         return land.council[school] == moves.council[proposal] && land.isOpen(school, today / YEAR_DAYS);
     }
@@ -422,7 +419,7 @@ public final class PupilCoin {
         return coins > together * law.told[MOVE] / 100;
     }
 
-    /** Roads between nodes, and the fewest miles by them. */
+    /** Roads between nodes, and the fewest miles by them, measured when they're asked for. */
     private static final class Roads {
         final int[] miles = new int[NODES * NODES];
         final int[] ways = new int[NODES * NODES];
@@ -432,11 +429,6 @@ public final class PupilCoin {
             miles[a * NODES + b] = m;
             miles[b * NODES + a] = m;
             measured = false;
-        }
-
-        int fewest(int a, int b) {
-            if (!measured) measure();
-            return ways[a * NODES + b];
         }
 
         void measure() {
@@ -507,9 +499,10 @@ public final class PupilCoin {
         }
 
         int reach(int s, int year) {
+            if (!roads.measured) roads.measure();
             int least = FARTHEST;
             for (int o = 0; o < schools; o++) {
-                if (o != s && isOpen(o, year)) least = Math.min(least, roads.fewest(node[s], node[o]));
+                if (o != s && isOpen(o, year)) least = Math.min(least, roads.ways[node[s] * NODES + node[o]]);
             }
             return least;
         }
@@ -654,7 +647,7 @@ public final class PupilCoin {
 
         Reader() {
             for (int k = 0; k < keys.length; k++) {
-                for (int i = 0; i < NAME_LETTERS; i++) {
+                for (int i = 0; i < NAME_LETTERS && k * NAME_LETTERS + i < KEYS.length(); i++) {
                     char letter = KEYS.charAt(k * NAME_LETTERS + i);
                     if (letter != ' ') keys[k] = keys[k] * 32 + letter - 'a' + 1;
                 }
@@ -697,9 +690,9 @@ public final class PupilCoin {
                 return;
             }
             int b = text[at];
-            if (isLetter(b)) {
+            if (b >= 'a' && b <= 'z') {
                 nextWord();
-            } else if (isDigit(b)) {
+            } else if (b >= '0' && b <= '9') {
                 nextNumber();
             } else {
                 at++;
@@ -709,7 +702,7 @@ public final class PupilCoin {
 
         void nextWord() {
             name = 0;
-            for (int i = 0; i < TAPE && at < length && isLetter(text[at]); i++) {
+            for (int i = 0; i < TAPE && at < length && text[at] >= 'a' && text[at] <= 'z'; i++) {
                 if (i < NAME_LETTERS) name = name * 32 + text[at] - 'a' + 1;
                 at++;
             }
@@ -721,19 +714,11 @@ public final class PupilCoin {
 
         void nextNumber() {
             value = 0;
-            for (int i = 0; i < TAPE && at < length && isDigit(text[at]); i++) {
+            for (int i = 0; i < TAPE && at < length && text[at] >= '0' && text[at] <= '9'; i++) {
                 if (i < DIGITS) value = value * 10 + text[at] - '0';
                 at++;
             }
             token = at - place > DIGITS ? NO_TOKEN : NUMBER;
-        }
-
-        static boolean isLetter(int b) {
-            return b >= 'a' && b <= 'z';
-        }
-
-        static boolean isDigit(int b) {
-            return b >= '0' && b <= '9';
         }
 
         static boolean isSign(int b) {
@@ -935,7 +920,7 @@ public final class PupilCoin {
                 int with = law.code[i] / STEP;
                 if (kind <= PUSH_LINE) {
                     if (top >= STACK) return 0;
-                    stack[top++] = kind == PUSH_NUMBER ? with : kind == PUSH_LINE ? line[first + with] : words[with];
+                    stack[top++] = pushed(kind, with, line, first);
                 } else if (kind == NOT) {
                     if (top < 1) return 0;
                     stack[top - 1] = 1 - stack[top - 1];
@@ -946,6 +931,12 @@ public final class PupilCoin {
                 }
             }
             return top == 1 ? stack[0] : 0;
+        }
+
+        long pushed(int kind, int with, long[] line, int first) {
+            if (kind == PUSH_NUMBER) return with;
+            if (kind == PUSH_WORD) return with < WORDS ? words[with] : 0;
+            return first + with < line.length ? line[first + with] : 0;
         }
 
         static long both(int kind, long a, long b) {
@@ -985,6 +976,8 @@ public final class PupilCoin {
         // Each year's sums as known by the day on which the next one begins: what LAST is made of.
         final long[] past = new long[YEARS * SCHOOLS];
         int pastYears;
+        // The heads that LAST went by, of the school whose words stand in the mill.
+        long then;
         int moreSchool = NONE;
         int moreMark = NONE;
 
@@ -1000,24 +993,24 @@ public final class PupilCoin {
         }
 
         void reckon(int year, int known) {
-            preparePast(year);
+            prepare(year);
             deal(rules.inForce(year, known), year, known);
         }
 
         void reckonBy(Law law, int year, int known) {
-            preparePast(year);
+            prepare(year);
             deal(law, year, known);
         }
 
         void reckonWithOneMore(int s, int what, int year, int known) {
-            preparePast(year);
+            prepare(year);
             moreSchool = s;
             moreMark = what;
             deal(rules.inForce(year, known), year, known);
             moreSchool = NONE;
         }
 
-        void preparePast(int year) {
+        void prepare(int year) {
             for (int y = pastYears; y < year && y < YEARS; y++) {
                 int known = (y + 1) * YEAR_DAYS;
                 deal(rules.inForce(y, known), y, known);
@@ -1040,14 +1033,14 @@ public final class PupilCoin {
                     if (!land.isOpen(s, year)) continue;
                     gather(s, year, known);
                     workOut(law, s);
-                    bound(law, s, year);
+                    bound(law, s);
                 }
                 if (law.told[TOTAL] >= 0) partOut(law.told[TOTAL]);
             }
             for (int s = 0; s < SCHOOLS; s++) whole[s] = bare[s] + floor[s] + cap[s] + share[s];
         }
 
-        /** Sets the words of a school. */
+        /** Sets the words of a school, and what its BASE is made of. */
         void gather(int s, int year, int known) {
             int ahead = Math.max(0, year - 1);
             for (int what = 0; what < LOOKED_AT; what++) {
@@ -1061,6 +1054,10 @@ public final class PupilCoin {
             last[s] = lastOf(s, year);
             mill.words[LAST] = Math.max(-HELD, Math.min(HELD, last[s]));
             mill.words[WARD] = land.ward[s];
+            then = 0;
+            for (int what = 0; what < AGES && year > 0; what++) {
+                then += together(s, Math.max(0, year - 2), what, year * YEAR_DAYS);
+            }
         }
 
         /** A kind's marks of a year, of all that are the school's now. */
@@ -1094,9 +1091,8 @@ public final class PupilCoin {
             part[s] = Math.max(0, part[s]);
         }
 
-        /** Floor and cap, in their order; the words must be the school's. */
-        void bound(Law law, int s, int year) {
-            long then = headsThen(s, year);
+        /** Floor and cap, in their order. */
+        void bound(Law law, int s) {
             if (last[s] == 0 || then == 0) return;
             long base = Math.max(-BASE_HELD, Math.min(BASE_HELD, last[s] * mill.words[HEADS] / then));
             if (law.told[ORDER] == FLOOR) {
@@ -1106,16 +1102,6 @@ public final class PupilCoin {
                 press(law, s, base);
                 lift(law, s, base);
             }
-        }
-
-        /** The heads that LAST went by, of all that are joined in the year; 0 in year 0. */
-        long headsThen(int s, int year) {
-            if (year < 1) return 0;
-            long then = 0;
-            for (int what = 0; what < AGES; what++) {
-                then += together(s, Math.max(0, year - 2), what, year * YEAR_DAYS);
-            }
-            return then;
         }
 
         void lift(Law law, int s, long base) {
@@ -1157,7 +1143,7 @@ public final class PupilCoin {
         long putRight(int s, int year) {
             if (year < 1) return 0;
             int dealt = (year - 1) * YEAR_DAYS;
-            preparePast(year);
+            prepare(year);
             deal(rules.inForce(year - 1, dealt), year - 1, dealt);
             long right = 0;
             for (int m = 0; m < land.schools; m++) {
