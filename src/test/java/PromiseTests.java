@@ -24,6 +24,7 @@ public final class PromiseTests {
         lines();
         held();
         joinedSums();
+        lastKeepsUp();
         floorsAndCaps();
         baseEdges();
         totals();
@@ -600,6 +601,35 @@ public final class PromiseTests {
         due("the one that is taken", y.sum(2, 7, 0), 0);
     }
 
+    /** LAST goes by needs and roads as they are, and by all that is told meanwhile. */
+    static void lastKeepsUp() {
+        promise = 16;
+        PupilCoin x = land(2);
+        tell(x, "line a=need+heads if far<9999;line b=last;", 0);
+        due("LAST at first", x.sum(0, 2, 0), 0);
+        x.road(0, 1, 5);
+        x.need(0, 3);
+        due("LAST with a need and a road", x.sum(0, 2, 0), 9);
+        x.need(0, 5);
+        due("LAST with another need", x.sum(0, 2, 0), 15);
+        x.mark(0, 0, 0, 100);
+        due("LAST with a mark", x.sum(0, 2, 0), 215);
+        x.road(0, 1, 0);
+        due("LAST without the road", x.sum(0, 2, 0), 0);
+        x.school(0, 0, 0);
+        due("LAST with a school beside it", x.sum(0, 2, 0), 215);
+        due("LAST of that one", x.sum(2, 2, 0), 15);
+        due("LAST of year 3", x.sum(0, 3, 0), 220);
+        x.join(0, 2, 3);
+        due("LAST of year 3 with one joined", x.sum(0, 3, 0), 230);
+        x.join(0, 1, 2);
+        due("LAST of year 3 with one joined earlier", x.sum(0, 3, 0), 230);
+        due("LAST of year 4", x.sum(0, 4, 0), 230);
+        tell(x, "line a=1;line b=last;", 1);
+        // Year 0: 105, 0, 5; year 1: 106, 1, 6; year 2: 108, none, 7.
+        due("LAST by another formula", x.sum(0, 3, 0), 116);
+    }
+
     /** One school with 10 heads in year 0 and others in year 1; year 2 goes by those, with LAST 1000. */
     static PupilCoin based(String law, int now) {
         PupilCoin x = land(1);
@@ -719,6 +749,9 @@ public final class PromiseTests {
         due("below 0: the second", x.sum(1, 0, 0), 9);
         due("below 0: the third", x.sum(2, 0, 0), 10);
         due("all", x.all(0, 0), 38);
+        tell(x, "line a=10;total 0;", 0);
+        due("a total of 0", x.all(0, 0), 0);
+        due("its coins", x.sum(0, 0, 0), -4);
         x.need(0, 4);
         x.need(1, 2);
         tell(x, "line a=10*need-20;line b=5;share a;total 100;", 0);
