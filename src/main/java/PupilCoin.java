@@ -220,7 +220,7 @@ public final class PupilCoin {
     public int law(int year, int known, int what) {
         if (!isYear(year) || !isDay(known)) return NONE;
         Law law = rules.inForce(year, known);
-        return law == null ? NONE : law.tells(what);
+        return law == null ? toldWithout(what) : law.tells(what);
     }
 
     public long sum(int school, int year, int known) {
@@ -378,6 +378,12 @@ public final class PupilCoin {
 
     private boolean isSchool(int s) {
         return within(s, land.schools);
+    }
+
+    /** What law() tells of a year that no formula is for: nothing but what holds without statements. */
+    private static int toldWithout(int what) {
+        if (what == MOVE) return 0;
+        return what == ORDER ? FLOOR : NONE;
     }
 
     private boolean isLaterYear(int year) {

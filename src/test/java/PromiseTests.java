@@ -94,7 +94,7 @@ public final class PromiseTests {
         due("fault()", x.fault(), -1);
         due("all(0, 0)", x.all(0, 0), 0);
         due("sum(0, 0, 0)", x.sum(0, 0, 0), NOTHING);
-        due("law(0, 0, 3)", x.law(0, 0, 3), -1);
+        due("law(0, 0, 7)", x.law(0, 0, 7), -1);
         due("NONE", PupilCoin.NONE, -1);
     }
 
@@ -472,7 +472,15 @@ public final class PromiseTests {
     static void laws() {
         promise = 15;
         PupilCoin x = land(1);
-        for (int what = 0; what < 8; what++) due("law without any", x.law(0, 0, what), -1);
+        // Issues 5 and 6: without a formula there is no move, which is 0, and no order, which is floor.
+        int[] without = {-1, -1, -1, 0, 0, -1, -1, -1};
+        for (int what = 0; what < 8; what++) due("law without any, " + what, x.law(0, 0, what), without[what]);
+        due("move of no year", x.law(-1, 0, 3), -1);
+        due("move of year 10", x.law(10, 0, 3), -1);
+        due("order of no day", x.law(0, -1, 4), -1);
+        due("order of day 1000", x.law(0, 1000, 4), -1);
+        due("without any, 8", x.law(0, 0, 8), -1);
+        due("without any, -1", x.law(0, 0, -1), -1);
         x.day(20);
         due("formula 0", tell(x, "floor 90;line a=1;line b=2;share b;cap 0;floor 91;total 7;move 3;order cap;move 4;", 1), 0);
         due("formula 1", tell(x, "order cap;order floor;line c=3;", 3), 1);
@@ -480,6 +488,10 @@ public final class PromiseTests {
         for (int what = 0; what < 8; what++) due("law(1, 20, " + what + ")", x.law(1, 20, what), want[what]);
         due("law(1, 19, 7)", x.law(1, 19, 7), -1);
         due("law(0, 20, 7)", x.law(0, 20, 7), -1);
+        for (int what = 0; what < 8; what++) {
+            due("ahead of its day, " + what, x.law(1, 19, what), without[what]);
+            due("ahead of its year, " + what, x.law(0, 20, what), without[what]);
+        }
         due("law(2, 999, 7)", x.law(2, 999, 7), 0);
         int[] plain = {-1, -1, -1, 0, 0, -1, 3, 1};
         for (int what = 0; what < 8; what++) due("law(9, 20, " + what + ")", x.law(9, 20, what), plain[what]);
