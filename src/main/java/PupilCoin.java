@@ -114,10 +114,10 @@ public final class PupilCoin {
 
     private final Land land = new Land();
     private final Marks marks = new Marks();
-    private final Rules rules = new Rules();
+    private final Reader reader = new Reader();
+    private final Rules rules = new Rules(new Law(reader, NONE, 0, 0));
     private final Sums sums = new Sums(land, marks, rules);
     private final Moves moves = new Moves();
-    private final Reader reader = new Reader();
     private final int[] tape = new int[TAPE];
     private int taped;
     private Law aside;
@@ -219,8 +219,7 @@ public final class PupilCoin {
 
     public int law(int year, int known, int what) {
         if (!isYear(year) || !isDay(known)) return NONE;
-        Law law = rules.inForce(year, known);
-        return law == null ? toldWithout(what) : law.tells(what);
+        return rules.inForce(year, known).tells(what);
     }
 
     public long sum(int school, int year, int known) {
@@ -317,7 +316,7 @@ public final class PupilCoin {
     public long rates(int year, int a, int b, int t, int what) {
         if (!isYear(year) || t < 0 || t > MOST_TOTAL || a == b || !within(what, 4)) return NOTHING;
         Law law = rules.inForce(year, today);
-        if (law == null || !within(a, law.lines) || !within(b, law.lines)) return NOTHING;
+        if (!within(a, law.lines) || !within(b, law.lines)) return NOTHING;
         sums.reckon(year, today);
         Rates rates = new Rates(land, sums, year);
         rates.search(a, b, t);
@@ -380,12 +379,6 @@ public final class PupilCoin {
         return within(s, land.schools);
     }
 
-    /** What law() tells of a year that no formula is for: nothing but what holds without statements. */
-    private static int toldWithout(int what) {
-        if (what == MOVE) return 0;
-        return what == ORDER ? FLOOR : NONE;
-    }
-
     private boolean isLaterYear(int year) {
         return isYear(year) && year > today / YEAR_DAYS;
     }
@@ -415,7 +408,6 @@ public final class PupilCoin {
         int year = moves.year[proposal];
         int council = moves.council[proposal];
         Law law = rules.inForce(year, today);
-        if (law == null) return true;
         sums.reckon(year, today);
         long together = 0;
         for (int s = 0; s < land.schools; s++) {
@@ -612,7 +604,13 @@ public final class PupilCoin {
     /** The formulae taken. */
     private static final class Rules {
         final Law[] laws = new Law[LAWS];
+        // Stands where none is in force, so that such a year goes the same way as any other.
+        final Law empty;
         int count;
+
+        Rules(Law empty) {
+            this.empty = empty;
+        }
 
         int take(Law law) {
             if (count >= LAWS) return NONE;
@@ -621,11 +619,11 @@ public final class PupilCoin {
         }
 
         Law inForce(int year, int known) {
-            Law best = null;
+            Law best = empty;
             for (int i = 0; i < count; i++) {
                 Law law = laws[i];
                 if (law == null || law.day > known || law.from > year) continue;
-                if (best == null || law.from >= best.from) best = law;
+                if (law.from >= best.from) best = law;
             }
             return best;
         }
@@ -658,12 +656,11 @@ public final class PupilCoin {
                     if (letter != ' ') keys[k] = keys[k] * 32 + letter - 'a' + 1;
                 }
             }
+            clear();
         }
 
-        /** The fault's place, or NONE; then the other fields hold what was read. */
-        int read(int[] bytes, int n) {
-            text = bytes;
-            length = Math.min(n, bytes.length);
+        /** Leaves what a text without statements leaves. */
+        private void clear() {
             at = 0;
             steps = 0;
             lines = 0;
@@ -672,6 +669,13 @@ public final class PupilCoin {
             Arrays.fill(told, NONE);
             told[MOVE] = 0;
             told[ORDER] = FLOOR;
+        }
+
+        /** The fault's place, or NONE; then the other fields hold what was read. */
+        int read(int[] bytes, int n) {
+            text = bytes;
+            length = Math.min(n, bytes.length);
+            clear();
             next();
             for (int i = 0; i < STATEMENTS && token != TEXT_END && faultAt == NONE; i++) {
                 statement();
@@ -1034,15 +1038,13 @@ public final class PupilCoin {
             Arrays.fill(part, 0);
             Arrays.fill(last, 0);
             for (int s = 0; s < land.schools; s++) holder[s] = land.holder(s, year);
-            if (law != null) {
-                for (int s = 0; s < land.schools; s++) {
-                    if (!land.isOpen(s, year)) continue;
-                    gather(s, year, known);
-                    workOut(law, s);
-                    bound(law, s);
-                }
-                if (law.told[TOTAL] >= 0) partOut(law.told[TOTAL]);
+            for (int s = 0; s < land.schools; s++) {
+                if (!land.isOpen(s, year)) continue;
+                gather(s, year, known);
+                workOut(law, s);
+                bound(law, s);
             }
+            if (law.told[TOTAL] >= 0) partOut(law.told[TOTAL]);
             for (int s = 0; s < SCHOOLS; s++) whole[s] = bare[s] + floor[s] + cap[s] + share[s];
         }
 

@@ -522,7 +522,7 @@ public final class ModelRuns {
 
         long lawTells(int year, int known, int what) {
             Text law = law(year, known);
-            if (law == null) return what == 3 || what == 4 ? 0 : -1;
+            if (law == null) return what == 3 || what == 4 || what == 6 ? 0 : -1;
             switch (what) {
                 case 0: return law.number("floor", -1);
                 case 1: return law.number("cap", -1);

@@ -472,13 +472,19 @@ public final class PromiseTests {
     static void laws() {
         promise = 15;
         PupilCoin x = land(1);
-        // Issues 5 and 6: without a formula there is no move, which is 0, and no order, which is floor.
-        int[] without = {-1, -1, -1, 0, 0, -1, -1, -1};
+        // Issues 5, 6 and 9: such a year has no statements, 0 of them; without "move" it's 0, without "order" floor.
+        int[] without = {-1, -1, -1, 0, 0, -1, 0, -1};
         for (int what = 0; what < 8; what++) due("law without any, " + what, x.law(0, 0, what), without[what]);
         due("move of no year", x.law(-1, 0, 3), -1);
         due("move of year 10", x.law(10, 0, 3), -1);
         due("order of no day", x.law(0, -1, 4), -1);
         due("order of day 1000", x.law(0, 1000, 4), -1);
+        int[][] none = {{-1, 0}, {10, 0}, {0, -1}, {0, 1000}};
+        for (int[] n : none) due("statements of none such", x.law(n[0], n[1], 6), -1);
+        due("without any, after a fault", tell(x, "line a=1;total 5;move 3;x", 0), -1);
+        for (int what = 0; what < 8; what++) due("after a fault, " + what, x.law(0, 0, what), without[what]);
+        due("beside is in force for no year", tellBeside(x, "line a=1;total 5;move 3;order cap;share a;"), 0);
+        for (int what = 0; what < 8; what++) due("with one beside, " + what, x.law(0, 0, what), without[what]);
         due("without any, 8", x.law(0, 0, 8), -1);
         due("without any, -1", x.law(0, 0, -1), -1);
         x.day(20);
