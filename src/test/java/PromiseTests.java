@@ -25,6 +25,8 @@ public final class PromiseTests {
         held();
         joinedSums();
         lastKeepsUp();
+        knownBy();
+        fullLand();
         floorsAndCaps();
         baseEdges();
         totals();
@@ -140,6 +142,8 @@ public final class PromiseTests {
         due("sum without need", x.sum(0, 0, 0), 0);
         due("need(0, 100)", x.need(0, 100), true);
         due("sum with need", x.sum(0, 0, 0), 1000);
+        due("need(0, 0)", x.need(0, 0), true);
+        due("sum with a need of 0", x.sum(0, 0, 0), 0);
         due("need(0, 7)", x.need(0, 7), true);
         due("sum with another need", x.sum(0, 0, 0), 70);
         due("sum of the other ward", x.sum(1, 0, 0), 1);
@@ -393,6 +397,8 @@ public final class PromiseTests {
         faulty("line a=(((((((min(1,2))))))));", -1);
         faulty("line a=((((((((min(1,2)))))))));", 15);
         faulty("line a=max(1,max(1,max(1,max(1,max(1,max(1,max(1,max(1,(2)))))))));", 55);
+        faulty("line a=min(min(min(min(min(min(min(min(1,2),2),2),2),2),2),2),2);", -1);
+        faulty("line a=min(min(min(min(min(min(min(min((1),2),2),2),2),2),2),2),2);", 39);
         faulty("line a=1 if not not not not not not not not 1<2;", -1);
         faulty("line a=1 if not not not not not not not not not 1<2;", 44);
         faulty("line a=1 if not not not not not not not not (1)<2;", 44);
@@ -648,6 +654,79 @@ public final class PromiseTests {
         due("LAST by another formula", x.sum(0, 3, 0), 116);
     }
 
+    /** What is told between the days that a year's sum, LAST and heads then go by. */
+    static void knownBy() {
+        promise = 17;
+        PupilCoin x = land(2);
+        tell(x, "line a=heads*10;line b=last;", 0);
+        tell(x, "line a=heads;line b=last;floor 100;", 2);
+        x.mark(0, 0, 0, 10);
+        x.mark(0, 0, 3, 90);
+        x.mark(0, 1, 0, 20);
+        due("floor in year 2 by heads then, meals aside", x.led(0, 2, 30), 400 - 20 - 200);
+        x.day(150);
+        x.mark(0, 0, 0, 20);
+        x.mark(0, 1, 0, 30);
+        // Year 1 is 200 and LAST of 100 as known by 200; heads then are 20 as known by 200.
+        due("line a of year 2 as known by 200", x.led(0, 2, 0), 30);
+        due("LAST of year 2", x.led(0, 2, 1), 300);
+        due("heads then as known by 200", x.led(0, 2, 30), 300 * 30 / 20 - 30 - 300);
+        due("put right in year 2: year 1 as known by 100 was 200", x.led(0, 2, 33), 100);
+        x.day(250);
+        x.mark(0, 1, 0, 35);
+        due("a mark told later is none of year 2's", x.led(0, 2, 0), 30);
+        // Year 2 goes by another formula than year 1: 35 and LAST and a floor; 30 and those before.
+        due("put right in year 3", x.led(0, 3, 33), 525 - 450);
+        due("due of year 3", x.due(0, 3), 525 + 75);
+        promise = 9;
+        PupilCoin y = land(2);
+        tell(y, "line a=100;", 0);
+        tell(y, "line a=last;", 3);
+        due("LAST of one", y.sum(0, 3, 0), 100);
+        y.join(0, 1, 2);
+        due("LAST of one that had taken the other by then", y.sum(0, 3, 0), 100);
+        due("the other's", y.sum(1, 3, 0), 0);
+        PupilCoin z = land(2);
+        tell(z, "line a=100/heads;", 0);
+        tell(z, "line a=last;", 3);
+        z.mark(0, 1, 0, 5);
+        z.mark(1, 1, 0, 20);
+        due("LAST ahead of joining", z.sum(0, 3, 0), 20);
+        z.join(0, 1, 2);
+        due("LAST is by the heads of both, joined", z.sum(0, 3, 0), 4);
+    }
+
+    /** All that may be there is there: twelve schools, twenty proposals, eight formulae. */
+    static void fullLand() {
+        promise = 3;
+        PupilCoin x = new PupilCoin();
+        for (int s = 0; s < 12; s++) x.school(s % 8, s % 3, s);
+        for (int s = 0; s < 12; s++) x.mark(s, 0, 0, 1);
+        for (int n = 0; n < 8; n++) tell(x, "line a=heads;line b=last;floor 100;cap 100;total 120;move 100;", 0);
+        for (int p = 0; p < 20; p++) x.propose(2, 2, 5, 1, 1);
+        for (int s = 2; s < 12; s += 3) x.object(19, s);
+        x.join(0, 1, 1);
+        x.join(0, 2, 1);
+        x.day(10);
+        promise = 22;
+        for (int p = 0; p < 19; p++) due("adopt " + p, x.adopt(p), 0);
+        due("objections of all", x.adopt(19), 4);
+        promise = 17;
+        due("moved", x.led(5, 1, 34), 19);
+        due("moved from one that isn't open", x.led(2, 1, 34), 0);
+        due("a share of a full land", x.led(11, 0, 32), 9);
+        promise = 19;
+        due("all", x.all(1, 100), 120);
+        due("the taker's part", x.sum(0, 1, 100), 30);
+        promise = 26;
+        due("rates of a full land", x.rates(1, 0, 1, 999999999, 1), 12 * 2 + 120 * 2);
+        promise = 21;
+        due("object(20, 5)", x.object(20, 5), false);
+        due("object(19, 12)", x.object(19, 12), false);
+        promise = 22;
+        due("adopt(20)", x.adopt(20), 1);
+    }
+
     /** One school with 10 heads in year 0 and others in year 1; year 2 goes by those, with LAST 1000. */
     static PupilCoin based(String law, int now) {
         PupilCoin x = land(1);
@@ -781,6 +860,18 @@ public final class PromiseTests {
         due("without any part nothing is", x.led(0, 0, 32), 0);
         due("all", x.all(0, 0), 0 + 0 - 20 - 20 + 20);
         tell(x, "total 5;", 0);
+        PupilCoin y = land(3);
+        y.mark(1, 0, 0, 1);
+        y.mark(2, 0, 0, 1);
+        tell(y, "total 5;", 0);
+        due("no coin left over to one without a part", y.led(0, 0, 32), 0);
+        due("it goes to the least one with a part", y.led(1, 0, 32), 3);
+        PupilCoin z = land(1);
+        z.mark(0, 0, 0, 1);
+        z.mark(0, 1, 0, 1);
+        tell(z, "line a=50;", 0);
+        tell(z, "line a=100;cap 110;total 200;", 1);
+        due("the rest goes by the cap's line too", z.led(0, 1, 32), 200 - 55);
         due("a total without lines", x.all(0, 0), 5);
         due("its coins", x.sum(0, 0, 0), 2);
         x.join(0, 1, 1);
@@ -1126,6 +1217,8 @@ public final class PromiseTests {
         due("as it must be", doubtOf(1, 2, 3, 6, 6, 6), 0);
         due("too few together", doubtOf(1, 2, 3, 0, 0, 7), 1);
         due("an age that isn't told", doubtOf(1, -1, 3, 0, 0, 7), 0);
+        due("as much as all, an age isn't told", doubtOf(1, -1, 6, 0, 0, 7), 0);
+        due("an age alone, as much as all", doubtOf(7, -1, -1, -1, -1, 7), 0);
         due("more than all", doubtOf(1, -1, 9, 0, 0, 7), 4);
         due("more than all by either", doubtOf(8, -1, 9, 0, 0, 7), 32);
         due("both ages", doubtOf(8, -1, 9, 7, 8, 7), 32);
