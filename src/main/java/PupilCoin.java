@@ -237,7 +237,8 @@ public final class PupilCoin {
         if (k == LED_FLOOR) return sums.floor[school];
         if (k == LED_CAP) return sums.cap[school];
         if (k == LED_SHARE) return sums.share[school];
-        return k < STATEMENTS ? sums.line[school * STATEMENTS + k] : 0;
+        int rank = rules.inForce(year, year * YEAR_DAYS).lineAt(k);
+        return within(rank, STATEMENTS) ? sums.line[school * STATEMENTS + rank] : 0;
     }
 
     public long due(int school, int year) {
@@ -598,6 +599,14 @@ public final class PupilCoin {
             if (what == SHARE) return within(told[SHARE], lines) ? statementOf[told[SHARE]] : NONE;
             if (what == STATEMENT_COUNT) return statements;
             return what == WHICH_FORMULA ? number : NONE;
+        }
+
+        /** Which of the lines a statement is; NONE if it is no "line". */
+        int lineAt(int statement) {
+            for (int i = 0; i < lines && i < statementOf.length; i++) {
+                if (statementOf[i] == statement) return i;
+            }
+            return NONE;
         }
     }
 

@@ -498,7 +498,9 @@ public final class ModelRuns {
             if (k == 30) return sum.floor.longValueExact();
             if (k == 31) return sum.cap.longValueExact();
             if (k == 32) return sum.share.longValueExact();
-            return k < sum.lines.size() ? sum.lines.get(k).longValueExact() : 0;
+            Text law = law(year, 100 * year);
+            if (law == null || k >= law.statements.size() || !law.statements.get(k).get(0).equals("line")) return 0;
+            return sum.lines.get(law.names.indexOf(law.statements.get(k).get(1))).longValueExact();
         }
 
         long text(int n, int year, boolean beside) {
@@ -885,7 +887,7 @@ public final class ModelRuns {
             else if (kind < 43) ask("marked", aSchool(), year(), pick(7) - (one(20) ? 1 : 0), known());
             else if (kind < 46) ask("law", year(), known(), pick(9) - (one(20) ? 1 : 0));
             else if (kind < 54) ask("sum", aSchool(), year(), known());
-            else if (kind < 60) ask("led", aSchool(), year(), one(2) ? pick(3) : one(30) ? pick(50) - 8 : 29 + pick(6));
+            else if (kind < 60) ask("led", aSchool(), year(), one(2) ? pick(one(4) ? 30 : 7) : one(30) ? pick(50) - 8 : 29 + pick(6));
             else if (kind < 67) ask("due", aSchool(), year());
             else if (kind < 70) ask("all", year(), known());
             else if (kind < 74) ask("other", aSchool(), year());

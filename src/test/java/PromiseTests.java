@@ -32,6 +32,7 @@ public final class PromiseTests {
         totals();
         wideTotals();
         duesAndLed();
+        ledByStatements();
         proposals();
         objections();
         adoptions();
@@ -947,6 +948,51 @@ public final class PromiseTests {
         long sum = 0;
         for (int k = 0; k < 35; k++) sum += y.led(0, 3, k);
         due("the lines together", y.due(0, 3), sum);
+    }
+
+    /** Issue 12: 0 to 29 of led are the formula's statements, those that are no "line" are 0. */
+    static void ledByStatements() {
+        promise = 17;
+        PupilCoin x = land(1);
+        x.mark(0, 0, 0, 3);
+        x.mark(0, 1, 0, 3);
+        tell(x, "floor 5;line a=7;", 0);
+        due("a floor is no line", x.led(0, 0, 0), 0);
+        due("the line behind it", x.led(0, 0, 1), 7);
+        due("behind the last", x.led(0, 0, 2), 0);
+        tell(x, "line z=1;", 0);
+        tell(x, "move 5;line a=7;cap 900;line b=8 if 1>2;order cap;line c=a+2;share c;total 40;floor 1;line d=last;", 2);
+        long[] want = {0, 7, 0, 0, 0, 9, 0, 0, 0, 1};
+        for (int k = 0; k < 30; k++) due("statement " + k, x.led(0, 2, k), k < want.length ? want[k] : 0);
+        // LAST and BASE are 1: 17 go down to the cap's 9, and the rest of 31 is shared.
+        due("its cap", x.led(0, 2, 31), 9 - 17);
+        due("its share", x.led(0, 2, 32), 40 - 9);
+        due("another year's", x.led(0, 1, 0), 1);
+        promise = 15;
+        due("the share's line among the statements", x.law(2, 0, 5), 5);
+        promise = 18;
+        due("the lines together", x.due(0, 2), 40);
+        promise = 26;
+        // RATES count by the places among the "line" statements: 1 is b, 2 is c, 3 is d.
+        due("rates by the lines' places", x.rates(2, 2, 3, 999999999, 1), 7 + 18 + 2);
+        due("none of a statement's place", x.rates(2, 5, 1, 999999999, 1), NOTHING);
+        promise = 17;
+        PupilCoin y = land(1);
+        StringBuilder text = new StringBuilder();
+        for (int i = 0; i < 28; i++) text.append("cap 9;");
+        tell(y, text + "line a=4;line b=5;", 0);
+        due("statement 27", y.led(0, 0, 27), 0);
+        due("statement 28", y.led(0, 0, 28), 4);
+        due("statement 29", y.led(0, 0, 29), 5);
+        due("line 0 of 28 others", y.led(0, 0, 0), 0);
+        // As KNOWN when the year begins, not as known today.
+        PupilCoin z = land(1);
+        tell(z, "floor 5;line a=7;", 0);
+        z.day(5);
+        tell(z, "line a=9;", 0);
+        due("statement 0 of the year's beginning", z.led(0, 0, 0), 0);
+        due("statement 1 of the year's beginning", z.led(0, 0, 1), 7);
+        due("statement 0 of the next year's", z.led(0, 1, 0), 9);
     }
 
     static void proposals() {
