@@ -630,7 +630,7 @@ public final class SumBounds {
         ratesAre(land(1).then("formula 0: line a=0;line b=0;"), 0, 15, 0, 0, 0, 0);
         ratesAre(land(1).then("formula 0: line a=0-10;line b=10;"), 0, 5, 0, 5, 0, 5);
         ratesAre(land(1).then("formula 0: line a=1;line b=1;"), 0, 1, 0, 1, 0, 10);
-        ratesAre(land(1).then("formula 0: line a=0-10;line b=0;line c=0-5;"), 0, 0, 0, -5, 0, 0);
+        ratesAre(land(1).then("formula 0: line a=0-10;line b=0;line c=0-5;"), 0, 0, 1, -5, 0, 0);
         Due.says("two lines a, b (places among \"line\" statements); lines 0 on, unlike ones");
         Story story = land(1).then("formula 0: floor 5;line a=100;cap 900;line b=10;total 3;line c=1;");
         Due.is(story, "rates 0 0 1 999 1", 221);
