@@ -17,9 +17,10 @@ final class Due {
         if (got != want) tell(what + " answered " + got + ", due is " + want);
     }
 
-    /** What a line answers behind a story. */
+    /** What a line answers behind a story, if nothing was asked ahead of it and if something was. */
     static void is(Story story, String line, long want) {
         is(line, story.then(line).last(), want);
+        is(line + " behind much that was asked", story.then(line).lastWatched(), want);
     }
 
     /** A line is refused, and all that can be asked afterwards is as it was. */

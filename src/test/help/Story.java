@@ -74,6 +74,19 @@ final class Story {
         return last;
     }
 
+    /** What the last call answers if something is asked ahead of each call, which must change nothing. */
+    long lastWatched() {
+        if (3 * calls.size() > CALLS) return last();
+        PupilCoin x = new PupilCoin();
+        long last = 0;
+        for (Call c : calls) {
+            x.edge(0, 9, 0);
+            x.due(0, 9);
+            last = answer(x, c);
+        }
+        return last;
+    }
+
     /** All that can be asked afterwards, and what further calls would answer. */
     List<String> asked() {
         if (asked != null) return asked;

@@ -157,6 +157,17 @@ public final class BoundTests {
         Due.is(two.then("road 15 0 5", "road 0 15 0"), "far 1 0", 9999);
         Due.is(two.then("road 15 0 5", "road 0 15 0", "road 0 15 6"), "far 1 0", 6);
         Due.is(two, "road 0 15 0", 1);
+        // Over each NODE, and between each two of them.
+        for (int over = 0; over < 16; over++) {
+            int a = (over + 1) % 16;
+            int b = (over + 5) % 16;
+            Story way = new Story("school 0 0 " + a, "school 0 0 " + b, "road " + a + " " + over + " 3", "road " + over + " " + b + " 4");
+            Due.is(way, "far 0 0", 7);
+            Due.is(way, "far 1 0", 7);
+            Due.is(way.then("road " + b + " " + a + " 6"), "far 0 0", 6);
+            Due.is(way.then("road " + b + " " + a + " 8"), "far 1 0", 7);
+            Due.is(way.then("road " + b + " " + over + " 0"), "far 0 0", 9999);
+        }
     }
 
     static void far() {
@@ -465,7 +476,29 @@ public final class BoundTests {
         Due.refused(land.then("school 0 0 0", "object 0 0", "object 0 3", "object 0 4", "day 15"), "adopt 0", 4);
         Due.refused(land.then("school 0 1 0", "object 0 0", "object 0 3", "object 0 1", "day 15"), "adopt 0", 4);
         Due.refused(land.then("propose 0 1 0 401 1", "object 1 0", "object 1 3", "object 1 1", "day 15"), "adopt 1", 4);
+        whoMayObject();
         tooMuch(land);
+    }
+
+    static void whoMayObject() {
+        Due.says("not more than half of that COUNCIL's SCHOOLS that are OPEN TODAY objected");
+        String[] others = {"school 0 1 0", "school 0 2 0", "school 0 1 0", "school 0 1 0"};
+        Story four = schools(4).then(others).then("formula 0: line a=1000;move 10;", "propose 0 0 1 400 2");
+        Due.is(four.then("object 0 0", "object 0 3", "day 15"), "adopt 0", 0);
+        Due.refused(four.then("object 0 0", "object 0 3", "object 0 2", "day 15"), "adopt 0", 4);
+        // The fourth isn't OPEN from YEAR 1 on, so two of three are more than half; an objection of its own is none then.
+        Story three = four.then("join 0 3 1", "formula 2: line a=1000;move 100;");
+        Due.is(three.then("object 0 0", "day 100"), "adopt 0", 0);
+        Due.is(three.then("object 0 0", "object 0 2", "day 99"), "adopt 0", 0);
+        Due.refused(three.then("object 0 0", "object 0 2", "day 100"), "adopt 0", 4);
+        Due.is(three.then("object 0 0", "object 0 3", "day 100"), "adopt 0", 0);
+        Due.refused(three.then("object 0 0", "object 0 3", "object 0 2", "day 99"), "adopt 0", 4);
+        Story twelve = schools(12).then("formula 0: line a=1000;move 1;", "propose 0 11 0 120 1", "propose 0 0 11 121 1", "day 10");
+        Due.is(twelve, "adopt 0", 0);
+        Due.refused(twelve, "adopt 1", 5);
+        for (int s = 0; s < 6; s++) twelve = twelve.then("object 0 " + (11 - s));
+        Due.is(twelve, "adopt 0", 0);
+        Due.refused(twelve.then("object 0 0"), "adopt 0", 4);
     }
 
     static void tooMuch(Story land) {
@@ -478,6 +511,9 @@ public final class BoundTests {
         Due.is(part, "adopt 2", 0);
         Due.refused(part.then("adopt 2"), "adopt 3", 5);
         Due.is(land.then("propose 0 2 1 400 2", "day 15", "adopt 1"), "adopt 0", 0);
+        Due.refused(land.then("propose 0 2 1 1 1", "day 15", "adopt 0"), "adopt 1", 5);
+        Due.refused(land.then("propose 0 0 1 400 1", "day 15", "adopt 0"), "adopt 1", 5);
+        Due.refused(land.then("propose 0 1 0 400 1", "day 15", "adopt 0"), "adopt 1", 5);
         Due.is(land.then("school 0 1 0", "school 0 1 0", "propose 1 4 5 200 1", "day 15", "adopt 1"), "adopt 0", 0);
         Due.refused(land.then("school 0 1 0", "school 0 1 0", "propose 1 4 5 201 1", "day 15"), "adopt 1", 5);
         Story cut = schools(3).then("formula 0: line a=33;move 5;", "propose 0 0 1 4 1", "propose 0 0 1 5 1", "day 10");

@@ -60,7 +60,7 @@ public final class SumBounds {
     static void notOpen() {
         Due.says("SUM of a SCHOOL for a YEAR: that isn't OPEN in it: 0, no lines.");
         Story story = land(2).then("formula 0: line a=heads*10+5;floor 120;total 1000;", "beside: line a=7;",
-            "mark 0 0 0 3", "mark 1 0 0 4", "mark 0 2 0 3", "mark 1 2 0 4", "join 0 1 3");
+            "mark 0 0 0 3", "mark 1 0 0 4", "mark 0 1 0 3", "mark 1 1 0 4", "mark 0 2 0 3", "mark 1 2 0 4", "join 0 1 3");
         for (int y = 0; y < 10; y++) {
             boolean open = y < 3;
             long sum = story.then("sum 1 " + y + " 0").last();
@@ -72,7 +72,7 @@ public final class SumBounds {
             if (!open) Due.is(story, "due 1 " + y, 0);
             if (!open) Due.is(story, "other 1 " + y, 0);
         }
-        Due.is(story, "led 1 2 0", 5);
+        Due.is(story, "led 1 2 0", 45);
         Due.is(story, "led 0 4 0", 5);
         Due.is(story, "led 0 3 0", 75);
         // One that isn't OPEN has no part of the rest, and nothing is left for it.
@@ -438,6 +438,12 @@ public final class SumBounds {
 
     static void ledSteps() {
         Due.says("DUE: SUM as KNOWN by the DAY on which it BEGINS");
+        Story laws = land(1).then("formula 0: line a=1;line b=2;", "day 50", "formula 1: cap 5;line a=30;move 1;line b=40;", "day 150", "formula 1: line c=5;line d=6;");
+        long[] lines = {0, 30, 0, 40};
+        for (int k = 0; k < 4; k++) Due.is(laws, "led 0 1 " + k, lines[k]);
+        Due.is(laws, "led 0 2 0", 5);
+        Due.is(laws, "led 0 2 1", 6);
+        Due.is(laws, "due 0 1", 70);
         for (int year = 0; year < 10; year++) {
             int begins = 100 * year;
             Story story = land(1).then("formula 0: line a=first;floor 50;", "mark 0 " + Math.max(0, year - 1) + " 0 3");
@@ -608,6 +614,11 @@ public final class SumBounds {
         ratesAre(much, 0, 50, 0, 50, 0, 0);
         for (int what = 0; what < 4; what++) Due.is(much, "rates 0 0 1 49 " + what, NOTHING);
         ratesAre(much, 0, 51, 0, 51, 0, 10);
+        Story below = land(1).then("formula 0: line a=0;line b=0;line c=0-5;");
+        Due.is(below, "rates 0 0 1 0 1", -5);
+        Due.is(below, "rates 0 0 1 -1 1", NOTHING);
+        Due.is(below, "rates 0 0 1 -5 1", NOTHING);
+        Due.is(land(12).then("formula 0: line a=9999999*9;line b=0;line c=9999999*3;"), "rates 0 0 1 999999999 1", 359999964L + 539999940L);
         Due.says("those with the fewest LOSERS (BARE below LAST), of these the greatest sum");
         Story two = new Story("school 0 0 0", "school 1 0 1", "formula 0: line a=100*ward;line b=60*(1-ward);");
         ratesAre(two, 1, 160, 0, 160, 10, 10);

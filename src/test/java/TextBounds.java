@@ -316,11 +316,39 @@ public final class TextBounds {
         fault("line a=" + times("1+", 346) + "1", 700);
         fault(times(" ", 699) + "?", 699);
         fault("line a=1" + times(" ", 692), 700);
+        Due.says("The first n bytes of the tape are a FORMULA");
+        firstBytes();
+        fault("line a=" + times("1+", 345) + "abc", 697);
+        fault("line a=" + times("1+", 344) + "heads", 700);
+        fault("line a=" + times("1+", 344) + "  999", 700);
+        fault(times(" ", 695) + "order", 700);
+        fault(times(" ", 692) + "line a=1", 700);
+        sound(times(" ", 692) + "floor 1;");
+        // A full text behind full ones, sound or not.
+        Story many = new Story("school 0 0 0", "formula 0: " + full);
+        for (int i = 0; i < 4; i++) many = many.then("formula 0: line a=" + times("1+", 345) + "?;", "formula 0: " + full);
+        Due.is(many, "law 0 0 7", 4);
+        Due.is(many, "sum 0 0 0", 346);
         sound("line a=" + times("1*", 340) + "1 if 1=1;");
         sound("line a=1 if " + times("1=1or ", 110) + "1=1;");
         sound("line a=1 if " + times("1=1and ", 95) + "1=1;");
         Due.is(new Story("school 0 0 0", "formula 0: line a=8 if " + times("1=2or ", 110) + "1=1;"), "sum 0 0 0", 8);
         Due.is(new Story("school 0 0 0", "formula 0: line a=8 if " + times("1=1and ", 95) + "1=2;"), "sum 0 0 0", 0);
+    }
+
+    static void firstBytes() {
+        String text = "line abcdefghi=12345678;";
+        Story tape = new Story("tape: " + text);
+        int[] place = {-1, 0, 0, 0, 4, 5, 6, 7, 8, 9, 10, 11, 12, 13, 5};
+        for (int n = 0; n < place.length; n++) Due.is(tape.then("formula " + n + " 0"), "fault", place[n]);
+        Story number = new Story("tape: line abcdefgh=12345678;");
+        for (int n = 14; n < 22; n++) Due.is(number.then("formula " + n + " 0"), "fault", n);
+        Due.is(number.then("formula 22 0"), "fault", 14);
+        Due.is(new Story("tape: floor 10011;").then("formula 9 0"), "fault", 9);
+        Due.is(new Story("tape: floor 10011;").then("formula 10 0"), "fault", 6);
+        Story shorter = new Story("tape: floor 5;floor 6;").then("formula 8 0");
+        Due.is(shorter, "law 0 0 0", 5);
+        Due.is(shorter, "count 8", 0);
     }
 
     static void is(String ex, long want) {
@@ -388,6 +416,21 @@ public final class TextBounds {
         is("1 if not{1=1 or 1=1}", 0);
         is("1 if not 1=2 and 1=2", 0);
         is("1 if not not 1=1", 1);
+        String[] yes = {"1<2", "2>1", "3=3", "{1<2}", "not 2<1"};
+        String[] no = {"2<1", "1>2", "3=4", "{2<1}", "not 1<2"};
+        for (int i = 0; i < 5; i++) {
+            is("1 if not " + yes[i], 0);
+            is("1 if not " + no[i], 1);
+            for (int j = 0; j < 5; j++) {
+                is("1 if " + yes[i] + " and " + yes[j], 1);
+                is("1 if " + yes[i] + " and " + no[j], 0);
+                is("1 if " + no[i] + " and " + yes[j], 0);
+                is("1 if " + yes[i] + " or " + no[j], 1);
+                is("1 if " + no[i] + " or " + yes[j], 1);
+                is("1 if " + no[i] + " or " + no[j], 0);
+                is("1 if not{" + yes[i] + " and " + yes[j] + "}", 0);
+            }
+        }
     }
 
     static void wordsHeld() {
