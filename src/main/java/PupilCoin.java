@@ -60,8 +60,6 @@ public final class PupilCoin {
 
     // The words that EX may use, as places in Mill.words.
     private static final int HEADS = 3;
-    private static final int MEALS = 4;
-    private static final int SPECIAL = 5;
     private static final int NEED = 6;
     private static final int FAR = 7;
     private static final int LAST = 8;
