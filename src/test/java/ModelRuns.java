@@ -354,10 +354,14 @@ public final class ModelRuns {
             int[] to = new int[16];
             Arrays.fill(to, 1 << 20);
             to[schools.get(s)[2]] = 0;
-            for (int i = 0; i < 16; i++) {
+            boolean nearer = true;
+            while (nearer) {
+                nearer = false;
                 for (int a = 0; a < 16; a++) {
                     for (int b = 0; b < 16; b++) {
-                        if (roads[a][b] > 0) to[b] = Math.min(to[b], to[a] + roads[a][b]);
+                        if (roads[a][b] == 0 || to[a] + roads[a][b] >= to[b]) continue;
+                        to[b] = to[a] + roads[a][b];
+                        nearer = true;
                     }
                 }
             }
@@ -473,10 +477,9 @@ public final class ModelRuns {
         long right(int s, int year) {
             if (year == 0) return 0;
             BigInteger right = BigInteger.ZERO;
-            for (int m : joined(s, year)) {
-                right = right.add(row(year - 1, 100 * year).get(m).whole());
-                right = right.subtract(row(year - 1, 100 * (year - 1)).get(m).whole());
-            }
+            List<Sum> now = row(year - 1, 100 * year);
+            List<Sum> dealt = row(year - 1, 100 * (year - 1));
+            for (int m : joined(s, year)) right = right.add(now.get(m).whole()).subtract(dealt.get(m).whole());
             return right.longValueExact();
         }
 
@@ -501,6 +504,15 @@ public final class ModelRuns {
             Text law = law(year, 100 * year);
             if (law == null || k >= law.statements.size() || !law.statements.get(k).get(0).equals("line")) return 0;
             return sum.lines.get(law.names.indexOf(law.statements.get(k).get(1))).longValueExact();
+        }
+
+        /** All lines that are told together; none of them twice. */
+        long due(int s, int year) {
+            if (!isOpen(s, year)) return 0;
+            Sum sum = row(year, 100 * year).get(s);
+            BigInteger due = sum.floor.add(sum.cap).add(sum.share).add(big(right(s, year))).add(big(moved(s, year)));
+            for (BigInteger line : sum.lines) due = due.add(line);
+            return due.longValueExact();
         }
 
         long text(int n, int year, boolean beside) {
@@ -572,6 +584,8 @@ public final class ModelRuns {
             Text law = law(year, today);
             if (law == null || !in(a, 0, law.lines.size() - 1) || !in(b, 0, law.lines.size() - 1)) return NOTHING;
             List<Sum> row = row(year, today);
+            long[][] told = new long[schools.size()][];
+            for (int s = 0; s < told.length; s++) told[s] = row.get(s).lines.stream().mapToLong(BigInteger::longValueExact).toArray();
             long[] best = null;
             for (int ra = 0; ra <= 20; ra++) {
                 for (int rb = 0; rb <= 20; rb++) {
@@ -581,7 +595,7 @@ public final class ModelRuns {
                         if (!isOpen(s, year)) continue;
                         long bare = 0;
                         for (int i = 0; i < law.lines.size(); i++) {
-                            long v = row.get(s).lines.get(i).longValueExact();
+                            long v = told[s][i];
                             bare += i == a ? v * ra / 10 : i == b ? v * rb / 10 : v;
                         }
                         sum += bare;
@@ -727,10 +741,7 @@ public final class ModelRuns {
             switch (call) {
                 case "sum": return in(a[2], 0, 999) ? row(year, a[2]).get(a[0]).whole().longValueExact() : NOTHING;
                 case "led": return in(a[2], 0, 34) ? led(a[0], year, a[2]) : NOTHING;
-                case "due":
-                    long due = 0;
-                    for (int k = 0; k < 35; k++) due += led(a[0], year, k);
-                    return due;
+                case "due": return due(a[0], year);
                 case "all":
                     if (!in(a[1], 0, 999)) return NOTHING;
                     BigInteger all = BigInteger.ZERO;
