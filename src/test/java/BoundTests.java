@@ -33,6 +33,7 @@ public final class BoundTests {
         proposals();
         objections();
         adoptions();
+        moveKnownToday();
         asked();
         counts();
         Due.end();
@@ -531,6 +532,30 @@ public final class BoundTests {
         Due.refused(all, "adopt 1", 5);
         Due.refused(all.then("join 0 1 1"), "adopt 0", 5);
         Due.is(all.then("join 0 1 2"), "adopt 0", 0);
+    }
+
+    static void moveKnownToday() {
+        Due.says("\"move\" hundredths (of the FORMULA for that YEAR as KNOWN TODAY) of the SUMS of its SCHOOLS for that YEAR as KNOWN TODAY");
+        Story land = schools(2).then("formula 0: line a=heads*10;move 10;", "mark 0 1 0 30", "mark 1 1 1 20", "propose 0 0 1 50 2", "propose 0 0 1 51 2", "day 15");
+        Due.is(land, "adopt 0", 0);
+        Due.refused(land, "adopt 1", 5);
+        // Another mark: told for YEAR 1, which YEAR 2 looks at, and for others, which it doesn't.
+        Due.refused(land.then("mark 0 1 0 29"), "adopt 0", 5);
+        Due.is(land.then("mark 0 1 0 31"), "adopt 1", 0);
+        Due.refused(land.then("mark 0 0 0 31", "mark 0 2 0 31"), "adopt 1", 5);
+        Due.is(land.then("day 199", "mark 0 1 0 31"), "adopt 1", 0);
+        // Another FORMULA: for that YEAR, or for one up to it if none is; not for others.
+        Due.is(land.then("formula 1: line a=heads*10;move 11;"), "adopt 1", 0);
+        Due.is(land.then("formula 2: line a=heads*10;move 11;"), "adopt 1", 0);
+        Due.refused(land.then("formula 3: line a=heads*10;move 11;"), "adopt 1", 5);
+        Due.refused(land.then("formula 2: line a=heads*10;move 10;", "formula 1: line a=heads*10;move 11;"), "adopt 1", 5);
+        Due.refused(land.then("formula 2: line a=heads*9;move 10;"), "adopt 0", 5);
+        // SUMS are those with floor, cap and share.
+        Due.is(land.then("formula 2: line a=heads*10;move 10;total 510;"), "adopt 1", 0);
+        Due.refused(land.then("formula 2: line a=heads*10;move 10;total 509;"), "adopt 1", 5);
+        // What another FORMULA lets it adopt later on counts what was adopted by the one ahead.
+        Due.refused(land.then("adopt 0", "formula 2: line a=heads*10;move 20;"), "adopt 1", 5);
+        Due.is(land.then("adopt 0", "formula 2: line a=heads*10;move 21;"), "adopt 1", 0);
     }
 
     static void asked() {

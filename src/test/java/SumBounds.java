@@ -32,6 +32,7 @@ public final class SumBounds {
         rates();
         rateTies();
         ratesCut();
+        askedToday();
         foretold();
         foretoldKnown();
         doubts();
@@ -695,6 +696,29 @@ public final class SumBounds {
         // As KNOWN TODAY.
         Story known = land(1).then("formula 0: line a=first;line b=0;", "mark 0 0 0 5", "day 30", "mark 0 0 0 10");
         Due.is(known, "rates 0 0 1 999 1", 20);
+    }
+
+    static void askedToday() {
+        Due.says("BESIDE, EDGE, RATES: as KNOWN TODAY");
+        Story land = land(1).then("formula 0: line a=first;line b=10;", "beside: line a=first*2;", "mark 0 2 0 4", "day 20");
+        Story told = land.then("mark 0 2 0 7", "formula 2: line a=first*3;line b=20;");
+        long[][] want = {{8, 0, 1, 28}, {14, 1, 3, 82}, {14, 1, 3, 82}};
+        int[] years = {3, 3, 9};
+        for (int i = 0; i < 3; i++) {
+            Story story = (i == 0 ? land : told).then("mark 0 8 0 " + (i == 0 ? 4 : 7));
+            Due.is(story, "other 0 " + years[i], want[i][0]);
+            Due.is(story, "losers " + years[i], 1);
+            Due.is(story, "edge 0 " + years[i] + " 0", want[i][2]);
+            Due.is(story, "edge 0 " + years[i] + " 1", 0);
+            ratesAre(story, years[i], 999999999, 0, want[i][3], 20, 20);
+        }
+        // YEAR 1 goes by the formula of YEAR 0, whatever is told for YEAR 2.
+        ratesAre(told, 1, 999999999, 0, 20, 0, 20);
+        Due.is(told, "edge 0 1 0", 1);
+        // The lines that RATES may take are those of that YEAR's.
+        Due.is(told.then("formula 4: line a=first;"), "rates 4 0 1 999999999 0", NOTHING);
+        Due.is(told.then("formula 4: line a=1;line b=2;line c=3;"), "rates 4 1 2 999999999 1", 1 + 4 + 6);
+        Due.is(told.then("formula 4: line a=1;line b=2;line c=3;"), "rates 3 1 2 999999999 1", NOTHING);
     }
 
     static void foretold() {
