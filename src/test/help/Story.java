@@ -62,7 +62,7 @@ final class Story {
 
     PupilCoin tell() {
         PupilCoin x = new PupilCoin();
-        for (Call c : calls) answer(x, c);
+        for (Call c : calls) Calls.answer(x, c.name, c.a);
         return x;
     }
 
@@ -70,7 +70,7 @@ final class Story {
     long last() {
         PupilCoin x = new PupilCoin();
         long last = 0;
-        for (Call c : calls) last = answer(x, c);
+        for (Call c : calls) last = Calls.answer(x, c.name, c.a);
         return last;
     }
 
@@ -82,7 +82,7 @@ final class Story {
         for (Call c : calls) {
             x.edge(0, 9, 0);
             x.due(0, 9);
-            last = answer(x, c);
+            last = Calls.answer(x, c.name, c.a);
         }
         return last;
     }
@@ -98,13 +98,13 @@ final class Story {
                 x = tell();
                 used = calls.size();
             }
-            asked.add(c + " = " + answer(x, c));
+            asked.add(c + " = " + Calls.answer(x, c.name, c.a));
             used++;
         }
         x = tell();
         for (Call c : deeds(x.count(1), x.count(0), x.count(8), x.count(6))) {
             if (c.name.equals("again")) x = tell();
-            else asked.add("then " + c + " = " + answer(x, c));
+            else asked.add("then " + c + " = " + Calls.answer(x, c.name, c.a));
         }
         return asked;
     }
@@ -179,44 +179,5 @@ final class Story {
 
     private static void add(List<Call> list, String name, int... a) {
         list.add(new Call(name, a));
-    }
-
-    private static long of(boolean b) {
-        return b ? 1 : 0;
-    }
-
-    private static long answer(PupilCoin x, Call c) {
-        int[] a = c.a;
-        switch (c.name) {
-            case "day": return of(x.day(a[0]));
-            case "school": return x.school(a[0], a[1], a[2]);
-            case "need": return of(x.need(a[0], a[1]));
-            case "road": return of(x.road(a[0], a[1], a[2]));
-            case "far": return x.far(a[0], a[1]);
-            case "mark": return x.mark(a[0], a[1], a[2], a[3]);
-            case "marked": return x.marked(a[0], a[1], a[2], a[3]);
-            case "join": return x.join(a[0], a[1], a[2]);
-            case "open": return x.open(a[0], a[1]);
-            case "feed": return x.feed(a[0], a[1], a[2], a[3], a[4]);
-            case "formula": return x.formula(a[0], a[1]);
-            case "beside": return x.beside(a[0]);
-            case "fault": return x.fault();
-            case "law": return x.law(a[0], a[1], a[2]);
-            case "sum": return x.sum(a[0], a[1], a[2]);
-            case "led": return x.led(a[0], a[1], a[2]);
-            case "due": return x.due(a[0], a[1]);
-            case "all": return x.all(a[0], a[1]);
-            case "propose": return x.propose(a[0], a[1], a[2], a[3], a[4]);
-            case "object": return of(x.object(a[0], a[1]));
-            case "adopt": return x.adopt(a[0]);
-            case "other": return x.other(a[0], a[1]);
-            case "losers": return x.losers(a[0]);
-            case "edge": return x.edge(a[0], a[1], a[2]);
-            case "rates": return x.rates(a[0], a[1], a[2], a[3], a[4]);
-            case "foretold": return x.foretold(a[0], a[1], a[2], a[3]);
-            case "doubt": return x.doubt(a[0], a[1]);
-            case "count": return x.count(a[0]);
-            default: throw new IllegalArgumentException(c.name);
-        }
     }
 }
