@@ -767,6 +767,8 @@ public final class ModelRuns {
         final Model model = new Model();
         final List<String> story = new ArrayList<>();
         final boolean tame;
+        // The most days from one call of day() to the next: some runs stay in a year, some see all ten.
+        final int pace;
         int calls;
         boolean differs;
 
@@ -775,6 +777,7 @@ public final class ModelRuns {
             this.seen = seen;
             random = new Random(seed);
             tame = seed % 4 != 0;
+            pace = new int[] {35, 60, 120, 200}[seed / 4 % 4];
         }
 
         int pick(int bound) {
@@ -853,7 +856,7 @@ public final class ModelRuns {
             if (kind < 22) mark();
             else if (kind < 24) tellFormula(year());
             else if (kind < 26) tellBeside();
-            else if (kind < 28) ask("day", one(40) ? pick(1100) : model.today + pick(35));
+            else if (kind < 28) ask("day", one(40) ? pick(1100) : model.today + pick(pace));
             else if (kind < 29) ask("join", aSchool(), aSchool(), Math.min(10, model.thisYear() + pick(4)));
             else if (kind < 31) propose();
             else if (kind < 33) ask("object", pick(Math.max(1, model.moves.size() + 1)), aSchool());
@@ -871,7 +874,7 @@ public final class ModelRuns {
             else if (kind < 77) ask("losers", year());
             else if (kind < 83) ask("edge", aSchool(), year(), one(20) ? pick(9) - 2 : pick(5));
             else if (kind < 87) rates();
-            else if (kind < 91) ask("foretold", aSchool(), one(20) ? pick(6) - 1 : pick(3), one(20) ? pick(9) - 1 : 1 + pick(5), one(20) ? pick(6) - 1 : pick(3));
+            else if (kind < 91) foretold();
             else if (kind < 95) ask("doubt", aSchool(), Math.max(0, year()));
             else if (kind < 97) ask("count", pick(11) - (one(20) ? 1 : 0));
             else if (kind < 98 && model.schools.size() < 12) ask("school", pick(10) - 1, pick(5) - 1, pick(18) - 1);
@@ -898,6 +901,21 @@ public final class ModelRuns {
 
         int moveYear(long number) {
             return number < 0 || number >= model.moves.size() ? 0 : model.moves.get((int) number)[4];
+        }
+
+        /** Mostly of a school and an age that have a mark of a year that isn't later than this one. */
+        void foretold() {
+            int school = aSchool();
+            int age = one(20) ? pick(6) - 1 : pick(3);
+            for (int i = 0; i < 40 && !model.marks.isEmpty(); i++) {
+                int[] m = model.marks.get(pick(model.marks.size()));
+                if (m[1] == 0 || m[1] > model.thisYear() || m[2] > 2 || one(40)) continue;
+                school = m[0];
+                age = m[2];
+            }
+            int n = one(20) ? pick(9) - 1 : 1 + pick(5);
+            for (int what = 0; what < 3; what++) ask("foretold", school, age, n, what);
+            if (one(20)) ask("foretold", school, age, n, one(2) ? 3 : -1);
         }
 
         void rates() {

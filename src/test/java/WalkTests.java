@@ -14,7 +14,8 @@ public final class WalkTests {
     static boolean lost;
 
     public static void main(String[] args) throws IOException {
-        document = flat(Files.readString(Path.of("../shared/DOC.md")));
+        Path told = Path.of("../shared/DOC.md");
+        document = Files.exists(told) ? flat(Files.readString(told)) : "";
         at = Math.max(0, document.indexOf("## Terms"));
         days();
         schools();
